@@ -1,9 +1,5 @@
 /** For each promise of the document: ordinary calls, its edges, and wrong inputs, worked out by hand. */
-public final class PromiseTest {
-    private static final int BAD = -1, NOT = -2, FULL = -3, CLASH = -5;
-    private static final int MIN = Integer.MIN_VALUE, MAX = Integer.MAX_VALUE;
-    private static final Due due = new Due();
-
+public final class PromiseTest extends Making {
     public static void main(String[] args) {
         newObject();
         code();
@@ -42,41 +38,6 @@ public final class PromiseTest {
         agreeBounds();
         count();
         due.end("PromiseTest");
-    }
-
-    /** A new object with so many codes at the top. */
-    private static WorkCoder withCodes(int codes) {
-        WorkCoder x = new WorkCoder();
-        for (int i = 0; i < codes; i++) {
-            x.code(-1);
-        }
-        return x;
-    }
-
-    /** A new answer of one part with these words; the item's number. */
-    private static int item(WorkCoder x, int trade, int schooling, int... words) {
-        int item = 2 * x.answer(0, trade, schooling);
-        for (int word : words) {
-            x.put(item, word);
-        }
-        return item;
-    }
-
-    /** An item that is coded by the hand of coder 0; one that likeness would code has no place here. */
-    private static int hand(WorkCoder x, int code, int... words) {
-        int item = item(x, 0, x.count(1) % 10, words);
-        x.day();
-        due.is("a hand's item is in doubt alone", x.settle(item, 0, code), 1);
-        return item;
-    }
-
-    /** A rule for all trades that needs these words. */
-    private static int needing(WorkCoder x, int rank, int code, int... words) {
-        int rule = x.rule(rank, code, 1023);
-        for (int word : words) {
-            x.with(rule, word, 1);
-        }
-        return rule;
     }
 
     private static void newObject() {
