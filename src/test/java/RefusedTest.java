@@ -54,13 +54,18 @@ public final class RefusedTest extends Making {
         x.carry(2, 2, 1);
         x.carry(3, 0, 1);
         x.exclude(0, 7, 1);
-        x.exclude(2, 59, 1);
+        // At the edges, where calls are refused below, some of it is set: neither setting nor clearing goes unseen.
+        x.carry(0, 0, 1);
+        x.exclude(3, 59, 1);
+        x.spell(0, 10);
+        x.spell(59, 11);
         x.spell(6, 5);
         x.spell(5, 8);
         x.with(needing(x, 2, 1, 1), 9, 2);
         x.drop(needing(x, 5, 1, 30));
         needing(x, 2, 3, 2);
         x.with(x.rule(5, 0, 2), 30, 1);
+        x.with(3, 59, 2);
         mixedItems(x);
         return x;
     }
@@ -315,27 +320,32 @@ public final class RefusedTest extends Making {
         }
     }
 
-    /** Each call with one wrong number, the others being the least or the greatest that are allowed. */
+    /** Each call with one wrong number, the others being each the least or the greatest that is allowed. */
     private static void refusedNumbers(Office office, Calls.Size size) {
         for (Calls.Call call : Calls.in(size)) {
             for (int place = 0; place < call.ranges().length; place++) {
                 for (int edge : call.ranges()[place].edges()) {
                     if (!call.ranges()[place].has(edge)) {
-                        oneWrong(office, call, place, edge, true);
-                        oneWrong(office, call, place, edge, false);
+                        oneWrong(office, call, place, edge);
                     }
                 }
             }
         }
     }
 
-    private static void oneWrong(Office office, Calls.Call call, int place, int wrong, boolean least) {
-        int[] with = new int[call.ranges().length];
-        for (int i = 0; i < with.length; i++) {
-            Calls.Range range = call.ranges()[i];
-            with[i] = i == place ? wrong : least ? range.from() : range.to();
+    private static void oneWrong(Office office, Calls.Call call, int place, int wrong) {
+        int places = call.ranges().length;
+        for (int greatest = 0; greatest < 1 << places; greatest++) {
+            if ((greatest >> place & 1) == 1) {
+                continue;
+            }
+            int[] with = new int[places];
+            for (int i = 0; i < places; i++) {
+                Calls.Range range = call.ranges()[i];
+                with[i] = i == place ? wrong : (greatest >> i & 1) == 1 ? range.to() : range.from();
+            }
+            refused(office, call.shown(with), call.bad(), x -> call.answer().of(x, with));
         }
-        refused(office, call.shown(with), call.bad(), x -> call.answer().of(x, with));
     }
 
     private static void refusedStates(Office office) {
