@@ -44,6 +44,7 @@ public final class EdgeTest extends Making {
         carriesToASet();
         totalOfNoneAndAll();
         ofSeveralTheOneNamedFirst();
+        allMemoryIsItsOwn();
         the512thCall();
         due.end("EdgeTest");
     }
@@ -1123,6 +1124,43 @@ public final class EdgeTest extends Making {
         x.drop(39);
         due.is("drop: BAD", x.drop(40), BAD);
         due.is("drop: NOT", x.drop(39), NOT);
+    }
+
+    /** Whatever one office is told, another one is as it was: one made before, and one made after it. */
+    private static void allMemoryIsItsOwn() {
+        WorkCoder before = new WorkCoder();
+        WorkCoder x = Offices.full();
+        x.exclude(0, 1, 1);
+        x.spell(1, 59);
+        x.carry(0, 0, 1);
+        x.with(0, 1, 1);
+        x.gap(1000, 1000);
+        isAsAtFirst("made before", before);
+        isAsAtFirst("made after", new WorkCoder());
+        int[] counts = {40, 80, 160, 40, 0, 160, 0, 780, 0, 30};
+        for (int what = 0; what < counts.length; what++) {
+            due.is("the first one's count " + what, x.count(what), counts[what]);
+        }
+        due.is("it excludes", x.exclude(0, 1, 0), 1);
+        due.is("it spells", x.spell(1, 1), 59);
+        due.is("it carries", x.carry(0, 0, 0), 1);
+        due.is("its rule needs", x.with(0, 1, 0), 1);
+    }
+
+    private static void isAsAtFirst(String name, WorkCoder y) {
+        for (int what = 0; what < 10; what++) {
+            due.is(name + ": count " + what, y.count(what), 0);
+        }
+        due.is(name + ": its first code", y.code(-1), 0);
+        due.is(name + ": excludes nothing", y.exclude(0, 1, 0), 0);
+        due.is(name + ": each word for itself", y.spell(1, 1), 1);
+        due.is(name + ": its first other code", y.other(-1), 0);
+        due.is(name + ": carries to nothing", y.carry(0, 0, 0), 0);
+        due.is(name + ": its first rule", y.rule(0, 0, 0), 0);
+        due.is(name + ": needs nothing", y.with(0, 1, 0), 0);
+        due.is(name + ": its first item", hand(y, 0, 1, 2), 0);
+        due.is(name + ": LEAST and GAP at first", y.liked(item(y, 9, 9, 1)), 0);
+        due.is(name + ": by its own hand alone", y.agree(0), 0);
     }
 
     /** An office is used for 512 calls; the last of them answers like the first. */

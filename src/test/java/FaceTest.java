@@ -7,6 +7,7 @@ import java.nio.file.Path;
 import java.util.Arrays;
 import java.util.Set;
 import java.util.TreeSet;
+import java.util.regex.Matcher;
 import java.util.regex.Pattern;
 
 /** The public face is the document's and no more; the text keeps to what LANGUAGE.md leaves. */
@@ -31,7 +32,12 @@ public final class FaceTest {
         methods(due);
         fields(due);
         constructorsAndClasses(due);
-        text(due);
+        String code = code(due);
+        words(due, code);
+        libraryCalls(due, code);
+        loops(due, code);
+        sizes(due);
+        lengths(due, code);
         due.end("FaceTest");
     }
 
@@ -95,14 +101,83 @@ public final class FaceTest {
     }
 
     // The checks are of words, so comments are taken away first.
-    private static void text(Due due) throws Exception {
+    private static String code(Due due) throws Exception {
         String text = Files.readString(Path.of("src/main/java/WorkCoder.java"));
-        String code = text.replaceAll("(?s)/\\*.*?\\*/", "").replaceAll("//[^\\n]*", "");
+        due.holds("the text's signs are 1 to 127", text.chars().allMatch(c -> c >= 1 && c <= 127));
+        return text.replaceAll("(?s)/\\*.*?\\*/", "").replaceAll("//[^\\n]*", "");
+    }
+
+    private static void words(Due due, String code) {
         for (String word : FORBIDDEN) {
             String sought = Character.isLetter(word.charAt(0)) && !word.contains("\\")
                     ? "\\b" + word + "\\b" : word;
             due.holds("the text has no '" + word + "'", !Pattern.compile(sought).matcher(code).find());
         }
-        due.holds("the text's signs are 1 to 127", text.chars().allMatch(c -> c >= 1 && c <= 127));
+    }
+
+    private static void libraryCalls(Due due, String code) {
+        Set<String> called = new TreeSet<>();
+        Matcher m = Pattern.compile("\\b[A-Z]\\w*[a-z]\\w*\\.\\w+").matcher(code);
+        while (m.find()) {
+            called.add(m.group());
+        }
+        called.removeAll(Set.of("Math.max", "Math.min", "Long.bitCount"));
+        due.holds("of the library nothing else is called: " + called, called.isEmpty());
+        Set<String> made = new TreeSet<>();
+        m = Pattern.compile("\\bnew (\\w+)").matcher(code);
+        while (m.find()) {
+            made.add(m.group(1));
+        }
+        made.removeAll(Set.of("int", "long", "Item", "Rule", "Scheme"));
+        due.holds("nothing else is made: " + made, made.isEmpty());
+    }
+
+    /** Each loop counts up, by one, to a bound in its own line; nothing in it sets what it counts with. */
+    private static void loops(Due due, String code) {
+        due.holds("no while", !Pattern.compile("\\b(while|do)\\b").matcher(code).find());
+        Matcher m = Pattern.compile("(?m)^( *)(for\\b[^\\n]*)").matcher(code);
+        int loops = 0;
+        while (m.find()) {
+            Matcher parts = Pattern.compile("for \\(int (\\w+) = [^;]+; \\1 < [^;]+; \\1\\+\\+\\) \\{").matcher(m.group(2));
+            String body = code.substring(m.end(), code.indexOf("\n" + m.group(1) + "}", m.end()));
+            due.holds("its end can be seen: " + m.group(2), parts.matches()
+                    && !Pattern.compile("(?<!\\.)\\b" + parts.group(1) + "( [-+*/|&]?= |\\+\\+|--)").matcher(body).find());
+            loops++;
+        }
+        due.is("all loops were seen", loops, Pattern.compile("\\bfor\\b").matcher(code).results().count());
+    }
+
+    private static void sizes(Due due) {
+        Class<?>[] inside = WorkCoder.class.getDeclaredClasses();
+        due.holds("twelve classes at most", inside.length + 1 <= 12);
+        sizesOf(due, WorkCoder.class);
+        for (Class<?> one : inside) {
+            sizesOf(due, one);
+        }
+    }
+
+    private static void sizesOf(Due due, Class<?> one) {
+        int fields = 0;
+        for (Field f : one.getDeclaredFields()) {
+            fields += Modifier.isStatic(f.getModifiers()) ? 0 : 1;
+            Class<?> type = f.getType().isArray() ? f.getType().getComponentType() : f.getType();
+            due.holds(f + " is of numbers or of a class inside", type == int.class || type == long.class
+                    || type == boolean.class || type.getNestHost() == WorkCoder.class);
+        }
+        due.holds(one + " has twenty fields at most", fields <= 20);
+        for (Method m : one.getDeclaredMethods()) {
+            due.holds(m + " takes seven at most", m.getParameterCount() <= 7);
+        }
+    }
+
+    private static void lengths(Due due, String code) {
+        Matcher m = Pattern.compile("(?sm)^( +)[^\\n;=]*\\) \\{\\n.*?^\\1\\}").matcher(code);
+        int methods = 0;
+        while (m.find()) {
+            long lines = m.group().lines().count();
+            due.holds("sixty lines at most: " + m.group().strip().lines().findFirst().get(), lines <= 60);
+            methods++;
+        }
+        due.holds("all methods were seen: " + methods, methods >= 29 + 20);
     }
 }
